@@ -144,6 +144,14 @@ public final class LanesTest {
     x.setWell(1);
     x.pass(1);
     Bench.due("b sent its first, and has later ones", x.eldest(), 2);
+    BucketBrigade y = three();
+    y.setWell(0);
+    y.bring(0, 1);
+    y.bring(1, 1);
+    Bench.due("a as early as b", y.eldest(), 0);
+    y.pass(1);
+    y.bring(2, 1);
+    Bench.due("a and b ahead of c", y.eldest(), 0);
   }
 
   private static void bring() {

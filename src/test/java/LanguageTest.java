@@ -96,7 +96,7 @@ public final class LanguageTest {
     String keywords = "well lane under rate most burst rank holds drops old new folk to brings every from raise cap shut when minute"
         + " spare tokens waits sent lost lent full dry not and or min max";
     for (String keyword : keywords.split(" ")) error("lane " + keyword + LANE, 1, 5);
-    for (String name : new String[] {"wel", "wells", "ol", "mi", "minutes", "o", "or1"}) error("lane " + name + LANE, 0, -1);
+    for (String name : new String[] {"wel", "wells", "ol", "mi", "minutes", "o", "or1", "az", "z", "a9z0"}) error("lane " + name + LANE, 0, -1);
   }
 
   private static void grammar() {
@@ -146,6 +146,8 @@ public final class LanguageTest {
     error(cap + repeat("(", 9) + "1" + repeat(")", 9) + ";", 1, cap.length() + 8);
     error(cap + repeat("min(", 8) + "1" + repeat(",1)", 8) + ";", 0, -1);
     error(cap + repeat("min(", 9) + "1" + repeat(",1)", 9) + ";", 1, cap.length() + 35);
+    error(cap + "max(1," + repeat("(", 7) + "1" + repeat(")", 8) + ";", 0, -1);
+    error(cap + "max(1," + repeat("(", 8) + "1" + repeat(")", 9) + ";", 1, cap.length() + 13);
     error(cap + repeat("-", 7) + "(1)+" + repeat("-", 8) + "1-(((1)))*-1-1-1-1-1-1-1-1-1;", 0, -1);
     error(cap + repeat("-", 7) + "(-1);", 1, cap.length() + 8);
     String shut = A + "shut a when ";
@@ -325,6 +327,10 @@ public final class LanguageTest {
     sumIs("-2*3", -6);
     sumIs("5--3", 8);
     sumIs("min(4,7)+max(4,7)", 11);
+    sumIs("min(4,7)", 4);
+    sumIs("min(7,4)", 4);
+    sumIs("max(4,7)", 7);
+    sumIs("max(7,4)", 7);
     sumIs("min(-4,-7)", -7);
     sumIs("-65536*32768/-1/65536/2048", -16);
     sumIs("65536*65536", 0);
@@ -351,6 +357,13 @@ public final class LanguageTest {
     testIs("not 1=2 or 1=1", true);
     testIs("not 1=1 or 1=1", true);
     testIs("not not 1=1", true);
+    testIs("not 1=1", false);
+    testIs("not 1=1 and 1=1", false);
+    testIs("1=2 and 1=1", false);
+    testIs("1=1 and 1=2", false);
+    testIs("1=1 and 1=1", true);
+    testIs("1=2 or 1=2", false);
+    testIs("1=1 or 1=2", true);
     testIs("full a", false);
     testIs("dry a", false);
     testIs("not dry a and not full a", true);

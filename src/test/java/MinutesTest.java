@@ -245,11 +245,39 @@ public final class MinutesTest {
       BucketBrigade z = Bench.taught("well 30;" + lane("a", rate, 14, 30, 0, 30) + lane("b", 10, 30, 30, 1, 30) + thirty);
       Bench.due("a may not send more", z.advise(20), 1);
     }
+    // a loses pails from its second minute on, and none at a rate that is 5 more and no less.
+    BucketBrigade late = Bench.taught("well 30;" + lane("a", 5, 30, 10, 0, 10) + "folk f to a brings 10 every 1 from 0;");
+    Bench.due("three minutes ahead of the loss", late.advise(1), -1);
+    Bench.due("two minutes", late.advise(2), -1);
+    Bench.due("three minutes", late.advise(3), 0);
+    late.pass(1);
+    Bench.due("one minute less", late.advise(2), 0);
+    Bench.due("and none is lost yet", late.advise(1), -1);
+    Bench.due("from 0 to 5", adviceFor(0, 5), 0);
+    Bench.due("not from 0 to 4", adviceFor(0, 4), -1);
+    Bench.due("not from 0 to 6", adviceFor(0, 6), -1);
+    Bench.due("from 25 to 30", adviceFor(25, 30), 0);
+    Bench.due("from 27 to 30", adviceFor(27, 30), 0);
+    Bench.due("not from 27 to 32", adviceFor(27, 32), -1);
     BucketBrigade none = Bench.taught("");
     Bench.due("without lanes", none.advise(20), -1);
     for (int minutes : new int[] {0, -1, 21, Integer.MAX_VALUE, Integer.MIN_VALUE}) {
       Bench.refused("advise(" + minutes + ")", x, ARGUMENT, () -> x.advise(minutes));
     }
+  }
+
+  // a has no tokens, and b sends only when a has just so many, as it has if its rate is this number.
+  private static int adviceFor(int rate, int tokens) {
+    BucketBrigade x = Bench.taught("well 30;" + lane("a", 0, 30, 99, 0, 30) + lane("b", 30, 30, 99, 0, 10)
+        + "folk f to b brings 10 every 1 from 0;cap b to 0;cap b to 30 when tokens a=" + tokens + ";");
+    for (int i = 0; i < 4; i++) {
+      x.bring(0, i < 3 ? 30 : 9);
+      x.pass(1);
+    }
+    Bench.due("no pail of a waits", x.lane(0, 6), 0);
+    Bench.due("a has no tokens", x.lane(0, 5), 0);
+    x.setRate(0, rate);
+    return x.advise(3);
   }
 
   private static void mean() {
