@@ -585,34 +585,30 @@ public final class BucketBrigade {
       error = 0;
       errorPlace = NONE;
       for (int lines = 0; lines < MOST_TOKENS && error != 1 && kind() != END; lines++) {
-        readLine();
+        int kind = kind();
+        switch (kind) {
+          case WELL:
+            next++;
+            draft.well = number(0, MOST_PAILS);
+            break;
+          case LANE:
+            readLane();
+            break;
+          case FOLK:
+            readFolk();
+            break;
+          case RAISE:
+          case CAP:
+          case SHUT:
+            readOrder(kind);
+            break;
+          default:
+            fail();
+            break;
+        }
+        need(';');
       }
       return error;
-    }
-
-    private void readLine() {
-      int kind = kind();
-      switch (kind) {
-        case WELL:
-          next++;
-          draft.well = number(0, MOST_PAILS);
-          break;
-        case LANE:
-          readLane();
-          break;
-        case FOLK:
-          readFolk();
-          break;
-        case RAISE:
-        case CAP:
-        case SHUT:
-          readOrder(kind);
-          break;
-        default:
-          fail();
-          break;
-      }
-      need(';');
     }
 
     private void readLane() {
@@ -714,20 +710,20 @@ public final class BucketBrigade {
         next++;
         draft.book.add(kind, toldLane());
       } else {
-        compared(depth);
+        sum(depth);
+        int sign = kind();
+        if (compares(sign)) {
+          next++;
+          sum(depth);
+          draft.book.add(sign, 0);
+        } else {
+          fail();
+        }
       }
     }
 
-    private void compared(int depth) {
-      sum(depth);
-      int kind = kind();
-      if (kind == '<' || kind == '>' || kind == '=' || kind == AT_MOST || kind == AT_LEAST) {
-        next++;
-        sum(depth);
-        draft.book.add(kind, 0);
-      } else {
-        fail();
-      }
+    private static boolean compares(int kind) {
+      return kind == '<' || kind == '>' || kind == '=' || kind == AT_MOST || kind == AT_LEAST;
     }
 
     private void sum(int depth) {
