@@ -7,7 +7,9 @@ public final class LanguageTest {
     newObject();
     feedAndTrim();
     tokens();
+    strangeBytes();
     grammar();
+    missingParts();
     depth();
     mostTokens();
     meaning();
@@ -15,6 +17,7 @@ public final class LanguageTest {
     teachBeginsAnew();
     counts();
     reckoning();
+    testsOfLanes();
     Bench.end();
   }
 
@@ -99,6 +102,21 @@ public final class LanguageTest {
     for (String name : new String[] {"wel", "wells", "ol", "mi", "minutes", "o", "or1", "az", "z", "a9z0"}) error("lane " + name + LANE, 0, -1);
   }
 
+  private static void strangeBytes() {
+    String known = "abcdefghijklmnopqrstuvwxyz0123456789()[];,+-*/<>= \n";
+    int n = A.length();
+    for (char sign = 0; sign < 256; sign++) {
+      if (known.indexOf(sign) >= 0) continue;
+      error(sign + " 7;", 1, 0);
+      error("well " + sign + ";", 1, 5);
+      error("well 7 " + sign, 1, 7);
+      error("lane a" + sign + LANE, 1, 6);
+      error(A + "cap a to 1 when 2 " + sign + " 3;", 1, n + 18);
+      error(A + "cap a to 1 when not" + sign + "1=1;", 1, n + 19);
+      error(A + "cap a to 1" + sign + "2;", 1, n + 10);
+    }
+  }
+
   private static void grammar() {
     error("well 7", 1, 6);
     error("well 7 \n", 1, 8);
@@ -136,6 +154,37 @@ public final class LanguageTest {
     error(A + "cap a to min 1,2;", 1, A.length() + 13);
     error(A + "cap a to max(1,2,3);", 1, A.length() + 16);
     error(A + "cap a to tokens 1;", 1, A.length() + 16);
+  }
+
+  // Without any one of its tokens a line is none, and the next token is the first that can't follow.
+  private static void missingParts() {
+    String[] lines = {"well 7 ;", "lane b under a rate 1 most 9 burst 3 rank 0 holds 2 drops old ;", "folk f to a brings 1 every 1 from 0 ;",
+      "raise a to 1 when 1 = 1 ;", "shut a when dry a ;", "cap a to min ( 1 , 2 ) ;", "cap a to max ( 1 , 2 ) ;", "cap a to tokens a ;"};
+    for (String line : lines) {
+      String[] parts = line.split(" ");
+      for (int gone = 0; gone < parts.length; gone++) {
+        StringBuilder text = new StringBuilder(A);
+        int place = 0;
+        for (int i = 0; i < parts.length; i++) {
+          if (i == gone) place = text.length();
+          else text.append(parts[i]).append(' ');
+        }
+        boolean fits = parts[gone].equals("when") || parts[gone].equals("under") || parts[gone].equals("min") || parts[gone].equals("max");
+        if (!fits) error(text.toString(), 1, gone == parts.length - 1 ? text.length() : place);
+      }
+    }
+    int n = A.length();
+    error(A + "cap a to min;", 1, n + 12);
+    error(A + "cap a to max+1;", 1, n + 12);
+    error(A + "cap a to min,1);", 1, n + 12);
+    error(A + "cap a to min(,1);", 1, n + 13);
+    error(A + "cap a to -;", 1, n + 10);
+    error(A + "cap a to ();", 1, n + 10);
+    error(A + "shut a when not;", 1, n + 15);
+    error(A + "shut a when [];", 1, n + 13);
+    error(A + "shut a when 1=1 and;", 1, n + 19);
+    error(A + "shut a when 1=1 or;", 1, n + 18);
+    error(A + "shut a when 1=;", 1, n + 14);
   }
 
   private static void depth() {
@@ -218,6 +267,12 @@ public final class LanguageTest {
     error(orders + "cap b to 1;", 4, orders.length());
     error(orders + "raise b to 1 when 1=1;", 4, orders.length());
     error(orders + "well 31;cap b to 1;", 5, orders.length() + 5);
+    // Error 1 is told ahead of all others, also where it comes behind them.
+    for (String other : new String[] {A + A, A + "shut b when 1=1;", orders + "cap a to 1;", "well 31;"}) {
+      error(other + "well;", 1, other.length() + 4);
+      error(other + "well 1", 1, other.length() + 6);
+      error(other + "well 1;?", 1, other.length() + 7);
+    }
   }
 
   private static void ranges() {
@@ -367,5 +422,39 @@ public final class LanguageTest {
     testIs("full a", false);
     testIs("dry a", false);
     testIs("not dry a and not full a", true);
+  }
+
+  // a has three tokens and no pail, one token is left to b, d has none; e holds one pail of two, f two.
+  private static void testOfLanesIs(String test, boolean want) {
+    String drops = " rank 0 holds 2 drops old;";
+    BucketBrigade x = Bench.taught("lane a rate 0 most 9 burst 3" + drops + "lane b rate 0 most 9 burst 1" + drops + "lane d rate 0 most 9 burst 0" + drops
+        + "lane e rate 0 most 0 burst 3" + drops + "lane f rate 0 most 0 burst 3" + drops + "cap a to 30 when " + test + ";");
+    x.bring(3, 1);
+    x.bring(4, 2);
+    x.pass(1);
+    Bench.due("test " + test, x.lane(0, 2), want ? 30 : 9);
+  }
+
+  private static void testsOfLanes() {
+    String[] hold = {"full f", "dry d", "1<2", "2>1", "1<=2", "2<=2", "2>=1", "2>=2", "2=2", "tokens a=3", "tokens b=1", "tokens d=0", "waits e=1", "waits f=2"};
+    String[] fail = {"full a", "full d", "full e", "dry a", "dry b", "dry f", "2<1", "2<2", "1>2", "2>2", "3<=2", "2>=3", "2=3"};
+    for (String yes : hold) {
+      testOfLanesIs(yes, true);
+      testOfLanesIs("not " + yes, false);
+      testOfLanesIs("not not " + yes, true);
+      testOfLanesIs(yes + " and 1=1", true);
+      testOfLanesIs("full f and " + yes, true);
+      testOfLanesIs(yes + " and dry a", false);
+      testOfLanesIs("1=2 or " + yes, true);
+    }
+    for (String no : fail) {
+      testOfLanesIs(no, false);
+      testOfLanesIs("not " + no, true);
+      testOfLanesIs("not not " + no, false);
+      testOfLanesIs(no + " and 1=1", false);
+      testOfLanesIs("dry d and not " + no, true);
+      testOfLanesIs(no + " or dry d", true);
+      testOfLanesIs("1=2 or " + no, false);
+    }
   }
 }

@@ -12,6 +12,7 @@ public final class MinutesTest {
     whatSumsKnow();
     until();
     foresee();
+    foreseeBehindAll();
     advise();
     mean();
     digest();
@@ -46,6 +47,19 @@ public final class MinutesTest {
     x.bring(1, 9);
     x.pass(1);
     sentAre("own tokens", x, 2, 1);
+    // One token is enough to go ahead by its rank or its number.
+    x = Bench.taught("well 1;" + lane("a", 0, 30, 1, 0, 60) + lane("b", 0, 30, 9, 1, 60));
+    x.bring(0, 2);
+    x.bring(1, 2);
+    x.pass(1);
+    sentAre("one token, and the smaller rank", x, 1, 0);
+    x.pass(1);
+    sentAre("no token", x, 1, 1);
+    x = Bench.taught("well 1;" + lane("a", 0, 30, 1, 5, 60) + lane("b", 0, 30, 9, 5, 60));
+    x.bring(0, 2);
+    x.bring(1, 2);
+    x.pass(1);
+    sentAre("one token, and the smaller number", x, 1, 0);
     // The smaller rank goes ahead as long as it has tokens.
     x = Bench.taught("well 5;" + lane("a", 0, 30, 9, 1, 60) + lane("b", 0, 30, 3, 0, 60));
     x.bring(0, 9);
@@ -225,6 +239,29 @@ public final class MinutesTest {
     }
   }
 
+  // What was lost, lent, left and so on ahead of now is known in what would be, too.
+  private static void foreseeBehindAll() {
+    String text = "well 6;" + lane("a", 3, 30, 4, 0, 4) + "lane b under a rate 0 most 30 burst 0 rank 1 holds 5 drops new;" + lane("c", 0, 0, 0, 0, 1)
+        + "folk f to a brings 1 every 2 from 0;folk g to b brings 7 every 2 from 1;"
+        + "cap c to spare;raise c to lent a when 1=1;cap c to 25-sent b when lost b>3;raise c to waits b+9 when sent a>2;raise b to lost b-2 when minute>6;";
+    BucketBrigade x = Bench.taught(text);
+    for (int m = 0; m < 12; m++) {
+      for (int minutes = 1; minutes <= 4; minutes++) foreseenAsPassed(text, x, m, minutes);
+      x.pass(1);
+    }
+    Bench.due("some were lost", x.count(8) > 0 ? 1 : 0, 1);
+    Bench.due("some were borrowed", x.count(9) > 0 ? 1 : 0, 1);
+  }
+
+  private static void foreseenAsPassed(String text, BucketBrigade x, int gone, int minutes) {
+    BucketBrigade other = Bench.taught(text);
+    if (gone > 0) other.pass(gone);
+    other.pass(minutes);
+    for (int what = 5; what <= 11; what++) {
+      Bench.due("foreseen " + what + " in minute " + gone + " behind " + minutes, x.foresee(minutes, what), other.count(what));
+    }
+  }
+
   private static void advise() {
     // Each minute 10 pails come into either lane; b loses as many as a, so that both are as good.
     String folk = "folk f to a brings 10 every 1 from 0;folk g to b brings 10 every 1 from 0;";
@@ -295,6 +332,15 @@ public final class MinutesTest {
     x.bring(0, 4);
     x.pass(4);
     Bench.dueMean("nine by seven", x.mean(), 9.0 / 7.0);
+    BucketBrigade y = Bench.taught("well 3;" + lane("a", 1, 30, 1, 0, 60) + lane("b", 1, 30, 1, 0, 60) + lane("c", 1, 30, 1, 0, 60));
+    y.bring(0, 1);
+    y.bring(1, 2);
+    y.bring(2, 4);
+    y.pass(4);
+    Bench.dueMean("seven by seven, of three lanes", y.mean(), 1.0);
+    y.bring(2, 2);
+    y.pass(2);
+    Bench.dueMean("eight by nine", y.mean(), 8.0 / 9.0);
   }
 
   private static void digest() {
