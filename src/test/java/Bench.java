@@ -99,7 +99,8 @@ final class Bench {
     }
   }
 
-  static void feed(BucketBrigade x, String text) {
+  /** Answers how many calls it took. */
+  static int feed(BucketBrigade x, String text) {
     int[] row = new int[(text.length() + 19) / 20 * 5];
     for (int i = 0; i < row.length * 4; i++) {
       int sign = i < text.length() ? text.charAt(i) : 'X';
@@ -108,6 +109,7 @@ final class Bench {
     int start = x.count(12);
     for (int i = 0; i < row.length; i += 5) x.feed(row[i], row[i + 1], row[i + 2], row[i + 3], row[i + 4]);
     x.trim(start + text.length());
+    return row.length / 5 + 2;
   }
 
   static int teach(BucketBrigade x, String text) {
