@@ -63,7 +63,8 @@ public final class CallSentencesTest {
       + lane("d", 3, 4, 5, 2, 60) + under("d", lane("e", 0, 30, 0, 2, 2)) + under("a", lane("f", 1, 1, 1, 9, 1))
       + "folk f to a brings 3 every 2 from 1;folk g to b brings 2 every 1 from 3;folk h to c brings 1 every 1 from 0;folk i to d brings 9 every 3 from 0;"
       + "folk j to e brings 1 every 2 from 0;folk k to f brings 1 every 30 from 9;folk l to a brings 30 every 30 from 20;folk m to d brings 1 every 1 from 12;"
-      + "raise a to 2+waits a/3 when waits a>3;cap b to 7-minute/2 when not full b;shut c when minute/3*3=minute;cap d to spare+2;raise e to lost e when dry e;";
+      + "raise a to 2+waits a/3 when waits a>3;cap b to 7-minute/2 when not full b;shut c when minute/3*3=minute;cap d to spare+2;raise e to lost e when dry e;cap f to 1+lent a/2 when sent b>lost b;"
+      + "raise c to lent d*3-lent a when tokens d<5;";
 
   /** Six lanes and eight folk in minute 7, with errorAt 5, and with a list on the tape that lacks its end. */
   static BucketBrigade rich() {

@@ -50,6 +50,19 @@ public final class ErrorSentencesTest {
   private static final String[] LINES = {"well 7 ;", "lane b under a rate 1 most 9 burst 3 rank 0 holds 2 drops old ;", "folk f to a brings 1 every 1 from 0 ;",
     "raise a to 1 + 2 * 3 when 1 = 1 and 2 < 3 or 3 > 2 ;", "shut a when not dry a or [ full a ] ;", "cap a to min ( - 1 , ( 2 ) ) / 3 when 1 <= 2 and 1 >= 2 ;"};
 
+  private static final String[] MAY_BE_MISSING = {"under", "when", "min", "-", "not", "1"};
+
+  private static void partIsMissing(String[] parts, int gone) {
+    StringBuilder text = new StringBuilder(A);
+    int place = 0;
+    for (int i = 0; i < parts.length; i++) {
+      if (i == gone) place = text.length();
+      else text.append(parts[i]).append(' ');
+    }
+    for (String part : MAY_BE_MISSING) if (part.equals(parts[gone])) return;
+    error(text.toString(), 1, gone == parts.length - 1 ? text.length() : place);
+  }
+
   // A } fits nowhere, and a keyword of lines fits only where a line can begin.
   private static void noBeginningOfAList() {
     Bench.sentence("Error 1: the first token with which the tokens so far are not the beginning of a list");
@@ -66,6 +79,18 @@ public final class ErrorSentencesTest {
       }
       good(A + line + line.replace("lane b", "lane c").replace("folk f", "folk g"));
     }
+    for (String line : new String[] {LINES[0], LINES[1], LINES[2], "cap a to 7 ;", "cap a to tokens a ;", "raise a to 7 when 7 = 7 ;", "shut a when dry a ;", "shut a when 7 < 7 ;"}) {
+      String[] parts = line.split(" ");
+      for (int i = 0; i < parts.length; i++) partIsMissing(parts, i);
+    }
+    for (String test : new String[] {"1", "1+2", "(1)", "minute", "tokens a", "min(1,2)", "-1"}) {
+      error(A + "shut a when " + test + ";", 1, N + 12 + test.length());
+      error(A + "shut a when [" + test + "];", 1, N + 13 + test.length());
+      error(A + "shut a when 1=1 and " + test + ";", 1, N + 20 + test.length());
+      error(A + "shut a when not " + test + " or 1=1;", 1, N + 17 + test.length());
+    }
+    for (String wrong : new String[] {"+", "*", "/", ")", "=", "[", "not ", ",", ";"}) error(A + "cap a to " + wrong + ";", 1, N + 9);
+    for (String begun : new String[] {"(", "-", "min", "max(", "max(1", "max(1,", "max(1,2", "1+", "1-", "1*", "1/"}) error(A + "cap a to " + begun + ";", 1, N + 9 + begun.length());
     error("7", 1, 0);
     error("a", 1, 0);
     error("when", 1, 0);

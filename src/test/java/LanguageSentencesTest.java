@@ -349,6 +349,13 @@ public final class LanguageSentencesTest {
       }
       error("lane " + ten + REST + "lane " + ten + REST, 2, 15 + REST.length() + 5);
     }
+    String signs = "0123456789abcdefghijklmnopqrstuvwxyz";
+    for (int i = 0; i < signs.length(); i++) {
+      for (int k = 0; k < i; k++) {
+        good("lane q" + signs.charAt(i) + REST + "lane q" + signs.charAt(k) + REST);
+        good("lane q" + signs.charAt(i) + "m" + REST + "lane q" + signs.charAt(k) + "m" + REST);
+      }
+    }
     good("lane a" + REST + "lane a0" + REST + "lane a00" + REST + "lane aa" + REST + "lane b" + REST + "lane ba" + REST);
   }
 

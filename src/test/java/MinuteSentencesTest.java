@@ -329,6 +329,16 @@ public final class MinuteSentencesTest {
     z.bring(2, 9);
     z.pass(1);
     facts("b and c, both by their own", z, 8, 0, 1, 1);
+    // One token is as good as many: then it goes by the rank, and by the number.
+    for (int rank = 4; rank <= 6; rank++) {
+      for (int tokens = 1; tokens <= 3; tokens++) {
+        BucketBrigade w = Bench.taught("well 1;" + lane("a", 0, 30, tokens, 5, 60) + lane("b", 0, 30, 4 - tokens, rank, 60));
+        w.bring(0, 9);
+        w.bring(1, 9);
+        w.pass(1);
+        facts(tokens + " and " + (4 - tokens) + " tokens, rank 5 and " + rank, w, 8, rank < 5 ? 0 : 1, rank < 5 ? 1 : 0);
+      }
+    }
   }
 
   private static void smallerRank() {
@@ -499,6 +509,21 @@ public final class MinuteSentencesTest {
         Bench.due(pails + " of " + holds, x.lane(1, 2), pails >= holds ? 0 : 17);
       }
     }
+    everywhere("full a", lane("a", 0, 0, 0, 0, 1) + "folk f to a brings 1 every 1 from 0;", true);
+    everywhere("full a", lane("a", 0, 0, 0, 0, 2) + "folk f to a brings 1 every 30 from 0;", false);
+  }
+
+  /** What holds in minute 1 alone, within not, and, or and [ ]. */
+  private static void everywhere(String test, String lanes, boolean holds) {
+    String[] tests = {test, "not " + test, "not not " + test, "[" + test + "]", test + " and 1=1", "1=1 and " + test, test + " and not " + test,
+      test + " or 1=2", "1=2 or " + test, test + " or not " + test, "not [" + test + " and " + test + "]", "not [" + test + " or " + test + "]"};
+    boolean[] same = {true, false, true, true, true, true, false, true, true, true, false, false};
+    for (int i = 0; i < tests.length; i++) {
+      BucketBrigade x = Bench.taught(lanes + Q + "cap q to 0 when minute=1 and [" + tests[i] + "];");
+      x.pass(2);
+      boolean want = tests[i].equals(test + " or not " + test) || (!tests[i].equals(test + " and not " + test) && same[i] == holds);
+      Bench.due("<" + tests[i] + "> with <" + lanes + ">", x.lane(1, 2), want ? 0 : 17);
+    }
   }
 
   private static void dryHolds() {
@@ -508,11 +533,18 @@ public final class MinuteSentencesTest {
       x.pass(1);
       Bench.due(tokens + " tokens", x.lane(1, 2), tokens == 0 ? 0 : 17);
     }
+    everywhere("dry a", lane("a", 0, 0, 0, 0, 1), true);
+    everywhere("dry a", lane("a", 1, 0, 1, 0, 1), false);
+    for (String yes : YES) everywhere(yes, lane("a", 0, 0, 0, 0, 1), true);
+    for (String no : NO) everywhere(no, lane("a", 0, 0, 0, 0, 1), false);
     // The tokens of the lane itself, not those of its lender.
     BucketBrigade y = Bench.taught(lane("t", 0, 0, 9, 0, 9) + under("t", lane("a", 0, 0, 0, 0, 9)) + Q + "cap q to 0 when dry a;");
     y.pass(1);
     Bench.due("a lender with tokens", y.lane(2, 2), 0);
   }
+
+  private static final String[] YES = {"1=1", "1<2", "2>1", "1<=2", "2<=2", "2>=1", "2>=2"};
+  private static final String[] NO = {"1=2", "2<2", "2<1", "2>2", "1>2", "2<=1", "1>=2"};
 
   private static void andBindsMore() {
     Bench.sentence("and binds more than or, not more than and");
