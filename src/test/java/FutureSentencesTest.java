@@ -16,6 +16,7 @@ public final class FutureSentencesTest {
     untilChangesNothing();
     untilRefused();
     foresee();
+    foreseeKnowsAll();
     foreseeChangesNothing();
     foreseeRefused();
     adviseFiveMore();
@@ -158,6 +159,22 @@ public final class FutureSentencesTest {
     for (int what = 5; what <= 11; what++) Bench.due("foresee(3, " + what + ")", y.foresee(3, what), behind[what - 5]);
     int[] behind100 = {2, 300, 200, 98, 0, 22, 1};
     for (int what = 5; what <= 11; what++) Bench.due("foresee(100, " + what + ")", y.foresee(100, what), behind100[what - 5]);
+  }
+
+  // In its fourth minute q sends as many as each of these numbers tells, and all of them are other ones by then.
+  private static void foreseeKnowsAll() {
+    Bench.sentence("20: Returns this, behind so many minutes: by all that orders look at");
+    String[] sums = {"minute", "spare", "tokens a", "waits b", "sent b", "lost b", "lent a"};
+    int[] want = {3, 12, 5, 2, 12, 7, 6};
+    for (int i = 0; i < sums.length; i++) {
+      BucketBrigade x = Bench.taught("well 16;" + lane("a", 1, 30, 9, 9, 60) + LanesSentencesTest.under("a", lane("b", 2, 4, 2, 8, 6)) + lane("q", 0, 0, 99, 0, 60)
+          + "folk f to b brings 7 every 1 from 0;cap q to " + sums[i] + " when minute=3;cap b to 0 when minute=3;");
+      x.pass(3);
+      x.bring(2, 30);
+      Bench.due("sent ahead of it", x.count(7), 12);
+      Bench.due("foreseen by " + sums[i], x.foresee(1, 7), 12 + want[i]);
+      Bench.due("sent by " + sums[i], x.pass(1), want[i]);
+    }
   }
 
   private static void foreseeChangesNothing() {
