@@ -15,6 +15,7 @@ public final class RandomRunsTest {
   private final BucketBrigade real = new BucketBrigade();
   private final PlainModel plain = new PlainModel();
   private final int seed;
+  private int used;
 
   private RandomRunsTest(int seed) {
     this.seed = seed;
@@ -47,6 +48,7 @@ public final class RandomRunsTest {
 
   private Object same(String name, Call call) {
     calls++;
+    used++;
     Object got = answer(call, true);
     Object want = answer(call, false);
     if (!got.equals(want)) {
@@ -59,7 +61,8 @@ public final class RandomRunsTest {
   private void run() {
     int steps = 40 + random.nextInt(60);
     if (random.nextInt(8) != 0) teach();
-    for (int i = 0; i < steps && wrong < 20; i++) {
+    // What an object answers behind 512 calls is free: a list takes some 105, a step and its digest two.
+    for (int i = 0; i < steps && wrong < 20 && used <= 400; i++) {
       if (random.nextInt(25) == 0) teach();
       step();
       same("digest()", r -> r ? real.digest() : plain.digest());
